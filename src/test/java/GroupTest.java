@@ -163,6 +163,9 @@ public final class GroupTest {
                 leave(0, 0) = 3
                 edge(0, 4) = 5
                 mark(0, 1, 3, 0, 7) = 5
+                join(1, 3) = 1
+                mark(1, 3, 1, 3, 8) = -1
+                edge(3, 5) = 8
                 """);
         Script.check("promise 17: it is no beat", """
                 join(0, 0) = 1

@@ -57,12 +57,14 @@ final class Script {
         }
     }
 
-    static void same(String title, Object got, Object due) {
+    static boolean same(String title, Object got, Object due) {
         checked++;
-        if (!due.equals(got)) {
-            wrong++;
-            System.out.println(title + " answered " + got + ", due is " + due);
+        if (due.equals(got)) {
+            return true;
         }
+        wrong++;
+        System.out.println(title + " answered " + got + ", due is " + due);
+        return false;
     }
 
     static void end() {
