@@ -20,7 +20,7 @@ import java.util.regex.Pattern;
  */
 final class Script {
     private static final int MOST_CALLS = 512;
-    private static final int PROBES = 5;
+    private static final int PROBES = 6;
     private static final Pattern ROW =
             Pattern.compile("(?:(\\d+) x )?(\\w+)\\(([^)]*)\\)(?: = (-?\\d+)| throws (\\w+)(, changed)?)?");
 
@@ -54,6 +54,22 @@ final class Script {
             if (row.mustChangeNothing()) {
                 checkUnchanged(title, rows, i);
             }
+        }
+    }
+
+    /**
+     * A number of a call, written @, with the ends of its range and what is due there ("0 = 7"): after the
+     * rows before it, the two ends must be answered so, and what lies outside must be refused.
+     */
+    static void checkRange(String title, String before, String call, String least, String most) {
+        for (String end : new String[] {least, most}) {
+            String number = end.substring(0, end.indexOf(' '));
+            check(title, before + call.replace("@", number) + end.substring(number.length()));
+        }
+        int under = Integer.parseInt(least.substring(0, least.indexOf(' '))) - 1;
+        int over = Integer.parseInt(most.substring(0, most.indexOf(' '))) + 1;
+        for (int outside : new int[] {under, over, Integer.MIN_VALUE, Integer.MAX_VALUE}) {
+            check(title, before + call.replace("@", Integer.toString(outside)) + " throws IllegalArgumentException");
         }
     }
 
@@ -129,6 +145,7 @@ final class Script {
             case 1 -> askGroups(subject, said, calls);
             case 2 -> askTimes(subject, said);
             case 3 -> askPending(subject, said);
+            case 4 -> askRecords(subject, said);
             default -> askTransactions(subject, said);
         }
         return said.toString();
@@ -180,6 +197,20 @@ final class Script {
             say(subject, said, "copy(" + n % 4 + ", 40)");
         }
         askReadings(subject, said);
+    }
+
+    private static void askRecords(Subject subject, StringBuilder said) {
+        for (int n = 0; n < 4; n++) {
+            say(subject, said, "copy(" + n + ", 40)");
+            String offset = subject.ask("edge(" + n + ", 0)");
+            while (!offset.endsWith("Exception") && !offset.equals("free")) {
+                say(subject, said, "fetch(" + n + ", " + offset + ", true)");
+                offset = subject.ask("fetch(" + n + ", " + offset + ", false)");
+                said.append(offset).append(' ');
+                say(subject, said, "last()");
+                offset = offset.matches("\\d+") ? Integer.toString(Integer.parseInt(offset) + 1) : offset;
+            }
+        }
     }
 
     private static void askTransactions(Subject subject, StringBuilder said) {
